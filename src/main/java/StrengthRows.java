@@ -197,7 +197,7 @@ public final class StrengthRows {
 
     public int reference(int day, double v) throws IllegalArgumentException, IllegalStateException {
         need(isDay(day) && references.isBehindLast(day) && isWithin(v, -MOST_REFERENCE, MOST_REFERENCE));
-        if (references.count >= REFERENCES) {
+        if (references.isFull()) {
             throw new IllegalStateException("no room for a reference");
         }
         return references.append(day, v);
@@ -460,13 +460,16 @@ public final class StrengthRows {
             return day > lastDay;
         }
 
+        private boolean isFull() {
+            return count >= REFERENCES;
+        }
+
+        /** Asked only when it is not full. */
         private int append(int day, double value) {
-            if (count < REFERENCES) {
-                days[count] = day;
-                values[count] = value;
-                lastDay = day;
-                count++;
-            }
+            days[count] = day;
+            values[count] = value;
+            lastDay = day;
+            count++;
             return count;
         }
 

@@ -87,6 +87,7 @@ public final class FitTest {
     private static void pivotEdge() {
         Due.isLong("a pivot of 2^-20", rankOfSpread(1.0 / 2048), 2);
         Due.isLong("a pivot below 2^-20", rankOfSpread(1.0 / 2048 - 1.0 / 1048576), 1);
+        Due.isLong("a pivot a little below 2^-20", rankOfSpread(1.0 / 2048 - 1.0 / (1L << 33)), 1);
         Due.isLong("a pivot above 2^-20", rankOfSpread(1.0 / 2048 + 1.0 / 1048576), 2);
     }
 
