@@ -3,7 +3,11 @@ public final class DrawnTest {
     public static void main(String[] args) {
         knownNumbers();
         manySeeds();
-        drawnRefuses();
+        leastAndGreatestAreTaken();
+        numberBehindTheGreatestIntIsWrapped();
+        seedKeepsItsSign();
+        belowZeroIsRefused();
+        asksOnly();
         Due.end();
     }
 
@@ -27,9 +31,49 @@ public final class DrawnTest {
         }
     }
 
-    private static void drawnRefuses() {
-        StrengthRows x = new StrengthRows(0);
-        Due.fails("drawn(-1)", Due.ARGUMENT, () -> x.drawn(-1));
-        Due.fails("drawn of the least int", Due.ARGUMENT, () -> x.drawn(Integer.MIN_VALUE));
+    /** The mixing of z, wrapped: the highest 20 bits of what it becomes, in parts of 32768. */
+    private static double mixed(long begin) {
+        long z = begin;
+        z = (z ^ z >>> 30) * 0xBF58476D1CE4E5B9L;
+        z = (z ^ z >>> 27) * 0x94D049BB133111EBL;
+        z = z ^ z >>> 31;
+        return (z >>> 44) / 32768.0;
+    }
+
+    private static void leastAndGreatestAreTaken() {
+        long step = 0x9E3779B97F4A7C15L;
+        StrengthRows x = new StrengthRows(42);
+        Due.is("the least k", x.drawn(0), mixed(42 + step));
+        Due.is("the greatest k but one", x.drawn(Integer.MAX_VALUE - 1), mixed(42 + 2147483647L * step));
+        Due.is("the greatest k", x.drawn(Integer.MAX_VALUE), mixed(42 + 2147483648L * step));
+    }
+
+    private static void numberBehindTheGreatestIntIsWrapped() {
+        long step = 0x9E3779B97F4A7C15L;
+        double asInt = mixed(42 + (long) Integer.MIN_VALUE * step);
+        Due.isTrue("k + 1 is no int", new StrengthRows(42).drawn(Integer.MAX_VALUE) != asInt);
+    }
+
+    private static void seedKeepsItsSign() {
+        long step = 0x9E3779B97F4A7C15L;
+        for (int seed : new int[] {-1, -42, Integer.MIN_VALUE}) {
+            StrengthRows x = new StrengthRows(seed);
+            Due.is("drawn(0) of seed " + seed, x.drawn(0), mixed(seed + step));
+            Due.isTrue("the seed is not unsigned", x.drawn(0) != mixed((seed & 0xFFFFFFFFL) + step));
+        }
+        StrengthRows greatest = new StrengthRows(Integer.MAX_VALUE);
+        Due.is("drawn(0) of the greatest seed", greatest.drawn(0), mixed(2147483647L + step));
+    }
+
+    private static void belowZeroIsRefused() {
+        for (int k : new int[] {-1, -2, Integer.MIN_VALUE}) {
+            Twins.refuse("drawn(" + k + ")", Due.ARGUMENT, Sample::tellMuch, x -> x.drawn(k));
+        }
+    }
+
+    private static void asksOnly() {
+        for (int k : new int[] {0, 1, Integer.MAX_VALUE}) {
+            Twins.stay("drawn(" + k + ")", Sample::tellMuch, x -> x.drawn(k));
+        }
     }
 }

@@ -53,6 +53,24 @@ final class Due {
         tell(call + " threw nothing, due is " + want.getName());
     }
 
+    static void passes(String call, Act act) {
+        asked++;
+        try {
+            act.run();
+        } catch (RuntimeException e) {
+            tell(call + " threw " + e.getClass().getName() + ", due is an answer");
+        }
+    }
+
+    /** The answer of a call, or the exception that it throws; adding 0.0 makes one 0 of the two. */
+    static String told(Call call) {
+        try {
+            return Double.toString(call.answer() + 0.0);
+        } catch (RuntimeException e) {
+            return e.getClass().getName();
+        }
+    }
+
     static void end() {
         System.out.println(asked + " answers asked, " + wrong + " not as due");
         if (wrong != 0 || asked == 0) {

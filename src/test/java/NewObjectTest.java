@@ -3,6 +3,9 @@ public final class NewObjectTest {
     public static void main(String[] args) {
         seedIsKept();
         firstChartIsTenOne();
+        firstChartIsAsIfToldSo();
+        numbersAreNoneAtFirst();
+        limitsAreSixteenAtFirst();
         restIsEmpty();
         objectsAreApart();
         Due.end();
@@ -31,11 +34,29 @@ public final class NewObjectTest {
         Due.isTrue("second bad one of eleven does not act", !far.test(true));
     }
 
-    private static void restIsEmpty() {
+    private static void firstChartIsAsIfToldSo() {
+        Twins.alike("the first chart is 10, 1", x -> { }, x -> x.chart(10, 1));
+    }
+
+    private static void numbersAreNoneAtFirst() {
         StrengthRows x = new StrengthRows(9);
         for (int k = 0; k < 3; k++) {
             Due.is("number at first", x.number(k), 0);
         }
+    }
+
+    private static void limitsAreSixteenAtFirst() {
+        for (int cls = 0; cls < 4; cls++) {
+            int c = cls;
+            Twins.alike("the first limit of class " + c + " is 16", Sample::tellFour, x -> {
+                Sample.tellFour(x);
+                x.limit(c, 16);
+            });
+        }
+    }
+
+    private static void restIsEmpty() {
+        StrengthRows x = new StrengthRows(9);
         Due.is("drift without references", x.drift(0), 0);
         Due.isLong("proof without boards", x.proof(1000), 0);
         Due.isLong("fit without boards", x.fit(), 0);
@@ -48,10 +69,11 @@ public final class NewObjectTest {
 
     private static void objectsAreApart() {
         StrengthRows one = new StrengthRows(1);
-        one.board();
-        one.reference(5, 5);
+        Sample.tellMuch(one);
         StrengthRows other = new StrengthRows(1);
+        Due.is("number(0) of the other object", other.number(0), 0);
         Due.isLong("board of the other object", other.board(), 0);
         Due.is("drift of the other object", other.drift(5), 0);
+        Due.isLong("reference of the other object", other.reference(0, 0), 1);
     }
 }
